@@ -20,6 +20,7 @@ public final class ReaderEdgeTest {
         writeNewOrThere();
         writeFullMoreThan700();
         writeFullWithHidden();
+        writeFullOfTheDeepestView();
         eraseThereOrNot();
         eraseOfAFullView();
         viewZeroWithoutOne();
@@ -206,6 +207,9 @@ public final class ReaderEdgeTest {
         run.same().place(NONE);
         run.fault(1, 0);
         run.same().place(0);
+        run.show(-1, 9);
+        run.place(0);
+        run.cutAll();
         run.feed(2, 0x0110, 2);
         run.place(0);
         run.fault(3, 1);
@@ -420,6 +424,30 @@ public final class ReaderEdgeTest {
         run.same().write(0xB001, 1, FULL);
     }
 
+    /** On the way to 0 are 16 forks, the most there can be. */
+    private static void writeFullOfTheDeepestView() {
+        Run run = run("write: FULL: more than 700 NODES, with 16 FORKS on a WAY");
+        run.empty();
+        run.take(Digests.EMPTY, 1);
+        run.write(0, 1, 1);
+        for (int i = 0; i < 16; i++) {
+            run.write(1 << i, 1, 1);
+        }
+        run.told(3, 33);
+        for (int i = 17; i < 350; i++) {
+            run.write(65535 - i, 1, 1);
+        }
+        run.told(3, 699);
+        run.same().write(65535, 1, FULL);
+        run.same().write(3, 1, FULL);
+        run.write(0, 2, 0);
+        run.write(1, 2, 0);
+        run.erase(0, 1);
+        run.write(3, 1, 1);
+        run.same().write(0, 1, FULL);
+        run.count(0, 65535, 350);
+    }
+
     private static void eraseThereOrNot() {
         Run run = withView("erase: 1; 0: it is not there. BAD, NONE, MISSING");
         run.same().erase(0x1002, 0);
@@ -551,6 +579,8 @@ public final class ReaderEdgeTest {
         run.same().count(32768, 65535, 1);
         run.erase(0x9000, 1);
         run.same().count(65535, 65535, MISSING);
+        run.same().count(0, 0, MISSING);
+        run.same().count(0, 65535, MISSING);
     }
 
     private static void nextFromOrMore() {
@@ -759,6 +789,10 @@ public final class ReaderEdgeTest {
         run.erase(path ^ 1, 1);
         run.remove(path ^ 1, 1);
         run.told(5, 15);
+        run.put(path ^ 1, 0, 1);
+        run.told(5, 16);
+        run.put(path, 102, 0);
+        run.root(-1, deepDigest(path, 102));
         run.told(3, 31);
         run.write(path ^ 1, 0, 1);
         run.view(digest);

@@ -10,6 +10,7 @@ public final class TreeEdgeTest {
         thereIsNoView();
         newOrThere();
         putFull301stLeaf();
+        putFullOfTheDeepestTree();
         putFullDoesNotCountVersions();
         removedOrNotThere();
         removeToTheLast();
@@ -122,6 +123,31 @@ public final class TreeEdgeTest {
         run.put(201, 1, 1);
         run.same().put(200, 1, FULL);
         run.leaves(-1, 300);
+    }
+
+    /** On the way to 0 are 16 forks, the most there can be. */
+    private static void putFullOfTheDeepestTree() {
+        Run run = run("put: FULL: a 301st LEAF, with 16 FORKS on a WAY");
+        run.put(0, 1, 1);
+        for (int i = 0; i < 16; i++) {
+            run.put(1 << i, 1, 1);
+        }
+        run.told(5, 16);
+        for (int i = 17; i < 299; i++) {
+            run.put(65535 - i, 1, 1);
+        }
+        run.leaves(-1, 299);
+        run.put(65535, 1, 1);
+        run.leaves(-1, 300);
+        run.same().put(65534, 1, FULL);
+        run.same().put(3, 1, FULL);
+        run.put(0, 2, 0);
+        run.put(1, 2, 0);
+        run.told(5, 16);
+        run.remove(0, 1);
+        run.told(5, 15);
+        run.put(3, 1, 1);
+        run.same().put(0, 1, FULL);
     }
 
     private static void putFullDoesNotCountVersions() {
