@@ -19,6 +19,7 @@ public final class TermsEdgeTest {
         for (int bit = 0; bit < 16; bit++) {
             placesOfAFork(bit);
         }
+        digests();
         hiddenJustIfNotWanted();
         wantedAtMost20();
         theView();
@@ -252,6 +253,32 @@ public final class TermsEdgeTest {
         run.show(-1, octets);
         run.octet(4, kindOfLow);
         run.forget(1);
+    }
+
+    /** The numbers were worked out apart, without a limit of 64 bits before each step's end. */
+    private static void digests() {
+        Run run = run("DIGESTS are longs (64 bits, round)");
+        run.root(-1, -1535350771747007001L);
+        run.put(0, Long.MIN_VALUE, 1);
+        run.root(-1, -1866586208767525141L);
+        run.put(0, 0, 0);
+        run.root(-1, -971380214056041081L);
+        run.put(65534, 0, 1);
+        run.remove(0, 1);
+        run.put(65535, Long.MAX_VALUE, 1);
+        run.remove(65534, 1);
+        run.root(-1, 7528572094432802520L);
+        run.put(65535, -1, 0);
+        run.root(-1, 8423778089544740668L);
+        run.put(65534, 0, 1);
+        run.root(-1, -4290080334087710890L);
+        run.put(0, 0, 1);
+        run.root(-1, -3876300104275585396L);
+        run.want(0, 65535, 1);
+        run.show(-1, 41);
+        run.take(-3876300104275585396L, 5);
+        run.erase(0, 1);
+        run.view(-4290080334087710890L);
     }
 
     private static void hiddenJustIfNotWanted() {
