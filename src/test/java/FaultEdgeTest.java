@@ -7,6 +7,9 @@ public final class FaultEdgeTest {
         endsTooEarly();
         tellsNoneOfTheFour();
         emptyButAsTheWhole();
+        for (int way = 0; way < 8; way++) {
+            emptyOnAWay(way);
+        }
         bitAbove15();
         for (int bit = 0; bit < 16; bit++) {
             stemHasOneFromBitOn(bit);
@@ -110,6 +113,26 @@ public final class FaultEdgeTest {
         run.cutAll();
         run.empty();
         run.take(Digests.EMPTY, 1);
+    }
+
+    /** Forks of the bits 0, 1 and 2, of which each goes on by its high node where the way has 1 in the bit. */
+    private static void emptyOnAWay(int way) {
+        Run run = run("2 EMPTY but as the whole (at it): on the way " + way);
+        int stem = 0;
+        int length = 0;
+        for (int bit = 0; bit < 3; bit++) {
+            boolean isHigh = (way >> 2 - bit & 1) == 1;
+            run.fork(bit, stem);
+            length += 4;
+            if (isHigh) {
+                run.hidden(bit);
+                length += 9;
+                stem += 0x8000 >> bit;
+            }
+            run.empty();
+            run.fault(2, length);
+            run.cut(length, 1);
+        }
     }
 
     private static void bitAbove15() {

@@ -28,9 +28,11 @@ public final class ReaderEdgeTest {
         countNoneAndEmpty();
         countFromTo();
         countMissing();
+        countMissingOfALowNode();
         nextFromOrMore();
         nextNone();
         nextMissing();
+        nextMissingOfALowNode();
         toldBad();
         toldOctetsRangesVersions();
         toldNodesAndHidden();
@@ -583,6 +585,40 @@ public final class ReaderEdgeTest {
         run.same().count(0, 65535, MISSING);
     }
 
+    /** The fork of bit 12 takes in 0x1010 .. 0x101F, and its place begins at 0: 0x1010 .. 0x1017 are hidden. */
+    private static Run withHiddenLowNode(String sentence) {
+        Run run = run(sentence);
+        run.fork(0, 0);
+        run.fork(12, 0x1010);
+        run.hidden(98);
+        run.leaf(0x1018, 30);
+        run.leaf(0x9000, 40);
+        long low = Digests.fork(12, 0x1010, 98, Digests.leaf(0x1018, 30));
+        run.take(Digests.fork(0, 0, low, Digests.leaf(0x9000, 40)), 5);
+        return run;
+    }
+
+    private static void countMissingOfALowNode() {
+        Run run = withHiddenLowNode("count: MISSING: some HIDDEN one's PLACE has a PATH of these: a LOW NODE's");
+        run.same().count(0, 0x100F, 0);
+        run.same().count(0x100F, 0x100F, 0);
+        run.same().count(0x100F, 0x1010, MISSING);
+        run.same().count(0x1010, 0x1010, MISSING);
+        run.same().count(0x1017, 0x1017, MISSING);
+        run.same().count(0x1017, 0x1018, MISSING);
+        run.same().count(0x1018, 0x1018, 1);
+        run.same().count(0x1018, 65535, 2);
+        run.write(0x100F, 20, 1);
+        run.same().count(0, 0x100F, 1);
+        run.same().count(0, 0x1010, MISSING);
+        run.erase(0x1018, 1);
+        // The fork of 0x100F and the hidden one takes in 0x1000 .. 0x101F: the hidden one's place is its second half.
+        run.same().count(0, 0x100F, 1);
+        run.same().count(0x1018, 0x1018, MISSING);
+        run.same().count(0x101F, 0x101F, MISSING);
+        run.same().count(0x1020, 65535, 1);
+    }
+
     private static void nextFromOrMore() {
         Run run = withView("next: the least PATH of THE VIEW's LEAVES that is from or more");
         run.same().next(0, 0x1003);
@@ -651,6 +687,23 @@ public final class ReaderEdgeTest {
         run.same().next(0, MISSING);
         run.same().next(65535, MISSING);
         run.same().next(65536, BAD);
+    }
+
+    private static void nextMissingOfALowNode() {
+        Run run = withHiddenLowNode("next: MISSING: a LOW NODE's PLACE has a PATH that is from or more");
+        run.same().next(0, MISSING);
+        run.same().next(0x100F, MISSING);
+        run.same().next(0x1010, MISSING);
+        run.same().next(0x1017, MISSING);
+        run.same().next(0x1018, 0x1018);
+        run.same().next(0x1019, 0x9000);
+        run.write(0x100F, 20, 1);
+        run.same().next(0, 0x100F);
+        run.same().next(0x100F, 0x100F);
+        run.same().next(0x1010, MISSING);
+        run.erase(0x1018, 1);
+        run.same().next(0x101F, MISSING);
+        run.same().next(0x1020, 0x9000);
     }
 
     private static void toldBad() {
