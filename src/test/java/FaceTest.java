@@ -20,12 +20,24 @@ public final class FaceTest {
             "int take(long)", "int place()", "int get(int)", "long value()", "int write(int, long)",
             "int erase(int)", "long view()", "int count(int, int)", "int next(int)", "int told(int)", "int octet(int)"));
 
+    /** The calls in the document's order, each part of them behind the words that the interface says ahead of it. */
+    private static final String[] ORDER = {
+        "---- the tree", "put(", "remove(", "keep(", "root(", "leaves(",
+        "---- what is shown", "want(", "forget(", "show(", "pass(",
+        "---- the tape", "feed(", "cut(", "spoil(",
+        "---- the reader", "take(", "place(", "get(", "value(", "write(", "erase(", "view(", "count(", "next(", "told(",
+        "octet("};
+    private static final int MOST_LINES = 60;
+
     public static void main(String[] args) throws IOException {
         constants();
         methods();
         fieldsAndConstructors();
         classesInside();
-        source(Files.readString(Path.of("src/main/java/PathProofs.java")));
+        String text = Files.readString(Path.of("src/main/java/PathProofs.java"));
+        source(text);
+        order(text);
+        shortMethods(text);
         CHECK.end();
     }
 
@@ -52,6 +64,8 @@ public final class FaceTest {
                 open.add(signature(method));
                 openNames.add(method.getName());
                 CHECK.holds(method + " is public", Modifier.isPublic(method.getModifiers()));
+                CHECK.holds(method + " is called on an object", !Modifier.isStatic(method.getModifiers()));
+                CHECK.due(method + " declares no exception", method.getExceptionTypes().length, 0);
             }
         }
         CHECK.holds("the face is " + open, open.equals(FACE));
@@ -69,6 +83,8 @@ public final class FaceTest {
         for (Field field : PathProofs.class.getDeclaredFields()) {
             if (!Modifier.isPrivate(field.getModifiers())) {
                 open.add(field.getName());
+                CHECK.holds(field + " is a public constant of int", field.getType() == int.class
+                        && field.getModifiers() == (Modifier.PUBLIC | Modifier.STATIC | Modifier.FINAL));
             }
             boolean isStatic = Modifier.isStatic(field.getModifiers());
             CHECK.holds("static fields are final: " + field, !isStatic || Modifier.isFinal(field.getModifiers()));
@@ -87,6 +103,12 @@ public final class FaceTest {
             CHECK.holds(inside + " is static", Modifier.isStatic(inside.getModifiers()));
             CHECK.holds(inside + " is not public", !Modifier.isPublic(inside.getModifiers()));
             CHECK.holds(inside + " has some twenty fields", inside.getDeclaredFields().length <= 20);
+            for (Field field : inside.getDeclaredFields()) {
+                CHECK.holds("no static state: " + field, !Modifier.isStatic(field.getModifiers()));
+            }
+            for (Method method : inside.getDeclaredMethods()) {
+                CHECK.holds("seven parameters at most: " + method, method.getParameterCount() <= 7);
+            }
         }
     }
 
@@ -99,5 +121,35 @@ public final class FaceTest {
         }
         CHECK.holds("no lambda", !code.contains("->"));
         CHECK.holds("no method reference", !code.contains("::"));
+    }
+
+    private static void order(String text) {
+        int at = 0;
+        for (String word : ORDER) {
+            boolean isHeading = word.startsWith("-");
+            int found = isHeading ? text.indexOf("\n    // " + word + "\n", at) : publicCall(text, word, at);
+            CHECK.holds(word + " stands in the document's order", found >= 0);
+            at = Math.max(at, found);
+        }
+    }
+
+    private static int publicCall(String text, String word, int from) {
+        int asInt = text.indexOf("\n    public int " + word, from);
+        return asInt >= 0 ? asInt : text.indexOf("\n    public long " + word, from);
+    }
+
+    /** From the line that opens a method to the one that ends it, which has the same indent. */
+    private static void shortMethods(String text) {
+        String[] lines = text.split("\n");
+        for (int i = 0; i < lines.length; i++) {
+            if (lines[i].matches(" +.*\\) \\{") && lines[i].matches(" {4}(?: {4})?\\S.*")) {
+                String end = lines[i].replaceFirst("\\S.*", "}");
+                int last = i;
+                while (last < lines.length && !lines[last].equals(end)) {
+                    last++;
+                }
+                CHECK.holds("a method of some sixty lines: " + lines[i], last - i < MOST_LINES);
+            }
+        }
     }
 }
